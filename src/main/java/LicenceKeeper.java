@@ -389,7 +389,6 @@ public final class LicenceKeeper {
         /** No machine has the product, and nothing is laid. */
         void clearAll() {
             havers = 0;
-            setWeights[0] = 0;
             Arrays.fill(taken, TOO_MUCH);
             taken[0] = 0;
         }

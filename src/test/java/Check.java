@@ -21,6 +21,17 @@ final class Check {
         }
     }
 
+    /** Like outcome, but tells apart an exception that the keeper's own code did not throw itself. */
+    private static String refusal(Call call) {
+        try {
+            return Integer.toString(call.answer());
+        } catch (RuntimeException thrown) {
+            String thrower = thrown.getStackTrace()[0].getClassName();
+            String name = thrown.getClass().getSimpleName();
+            return thrower.startsWith("LicenceKeeper") ? name : name + " from " + thrower;
+        }
+    }
+
     void equal(String what, Object got, Object want) {
         looked++;
         if (!got.equals(want)) {
@@ -36,7 +47,7 @@ final class Check {
     /** The call throws just this exception, and what a keeper answers after it is what it answers without it. */
     void refuses(String what, String exception, Recorded keeper, Recorded.Step call) {
         LicenceKeeper called = keeper.again();
-        equal(what, outcome(() -> call.on(called)), exception);
+        equal(what, refusal(() -> call.on(called)), exception);
         equal(what + " changes nothing", Snapshot.ofAll(called), Snapshot.ofAll(keeper.again()));
     }
 

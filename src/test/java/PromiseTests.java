@@ -140,6 +140,10 @@ public final class PromiseTests {
             check.refuses("3: a host to host " + host, Check.INDEX, keeper, k -> k.move(0, host));
             check.refuses("3: both " + host, Check.INDEX, keeper, k -> k.move(host, host));
         }
+        keeper.move(1, NONE);
+        keeper.move(0, 7);
+        check.refuses("3: the host of the first machine", Check.STATE, keeper, k -> k.move(7, 5));
+        check.refuses("3: to the first machine, a guest", Check.STATE, keeper, k -> k.move(5, 0));
         check.refuses("3: both none", Check.INDEX, keeper, k -> k.move(NONE, NONE));
     }
 
@@ -566,6 +570,7 @@ public final class PromiseTests {
         keeper.buy(0, DEVICE, 1, 0);
         check.answers("21: two", 4, () -> keeper.gapByAll(0));
         keeper.buy(1, DEVICE, 1, 0);
+        keeper.find(3, 1, 1);
         check.answers("21: another product's right", 4, () -> keeper.gapByAll(0));
         check.answers("21: of another product", 0, () -> keeper.gapByAll(1));
         keeper.buy(0, DEVICE, 3, 0);
@@ -580,6 +585,15 @@ public final class PromiseTests {
         keeper.lend(0, -10);
         keeper.lend(1, 1);
         check.answers("21: with guests", 0, () -> keeper.gapByAll(0));
+        LicenceKeeper tight = withCores(4, 4, 4, 4, 4, 4, 4, 64).again();
+        tight.buy(0, DEVICE, 1, 0);
+        check.answers("21: the last machine", 28, () -> tight.gapByAll(0));
+        tight.buy(0, CORE, 3, 0);
+        check.answers("21: a right that can be laid on nothing", 28, () -> tight.gapByAll(0));
+        tight.lend(1, 2);
+        tight.buy(0, DEVICE, 1, 0);
+        tight.lend(1, 1);
+        check.answers("21: and one that can", 24, () -> tight.gapByAll(0));
         refusesBeyond("21: product ", Check.INDEX, 4, keeper, LicenceKeeper::gapByAll);
     }
 
