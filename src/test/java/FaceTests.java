@@ -99,6 +99,7 @@ public final class FaceTests {
         while (imports.find()) {
             check.equal("import " + imports.group(1), IMPORTS.contains(imports.group(1)), true);
         }
-        check.equal("source is plain text", text.chars().allMatch(sign -> sign == '\n' || sign >= 32 && sign < 127), true);
+        boolean plain = text.chars().allMatch(sign -> sign == '\n' || sign >= 32 && sign < 127);
+        check.equal("source is plain text", plain, true);
     }
 }
