@@ -15,11 +15,12 @@ import java.util.regex.Pattern;
 /** The public face is the document's, and the source keeps to the rules that can be looked up in its text. */
 public final class FaceTests {
     private static final Path SOURCE = Path.of("src/main/java/LicenceKeeper.java");
+    /** I, A and S stand for IndexOutOfBounds-, IllegalArgument- and IllegalStateException in the throws clause. */
     private static final String[] METHODS = {
-        "setCores 2", "move 2", "find 3", "setPrice 2", "release 1", "buy 4", "upgrade 2", "lend 2", "pass 1",
-        "today 0", "rights 0", "countOf 1", "versionOf 1", "latest 1", "hostOf 1", "weight 2", "covers 2",
-        "gap 1", "uncovered 1", "gapByAll 1", "gapIf 3", "spare 1"};
-    private static final String[] CONSTANTS = {"NONE", "DEVICE", "CORE"};
+        "setCores 2 IA", "move 2 IAS", "find 3 IA", "setPrice 2 IA", "release 1 IS", "buy 4 IAS", "upgrade 2 IAS",
+        "lend 2 IAS", "pass 1 A", "today 0 ", "rights 0 ", "countOf 1 I", "versionOf 1 I", "latest 1 I", "hostOf 1 I",
+        "weight 2 I", "covers 2 I", "gap 1 I", "uncovered 1 I", "gapByAll 1 IS", "gapIf 3 IAS", "spare 1 I"};
+    private static final String[] CONSTANTS = {"NONE -1", "DEVICE 0", "CORE 1"};
     private static final Set<String> IMPORTS = Set.of("java.util.ArrayList", "java.util.Arrays");
     private static final String[] BARRED = {
         "->", "::", "\\bcatch\\b", "\\bfinally\\b", "\\bsynchronized\\b", "\\bassert\\b", "\\bSystem\\.(?!arraycopy)",
@@ -27,7 +28,7 @@ public final class FaceTests {
 
     private final Check check = new Check();
 
-    public static void main(String[] args) throws IOException {
+    public static void main(String[] args) throws IOException, IllegalAccessException {
         FaceTests tests = new FaceTests();
         tests.members();
         tests.nestedClasses();
@@ -35,7 +36,7 @@ public final class FaceTests {
         tests.check.end("FaceTests");
     }
 
-    private void members() {
+    private void members() throws IllegalAccessException {
         Class<?> face = LicenceKeeper.class;
         check.equal("class", Modifier.toString(face.getModifiers()), "public final");
         Set<String> methods = new TreeSet<>();
@@ -48,7 +49,7 @@ public final class FaceTests {
             if (Modifier.isPrivate(modifiers)) {
                 check.equal(method + " has a public one's name", names.contains(method.getName()), false);
             } else {
-                methods.add(method.getName() + " " + method.getParameterCount());
+                methods.add(method.getName() + " " + method.getParameterCount() + " " + throwsClause(method));
                 check.equal(method + " modifiers", Modifier.toString(modifiers), "public");
                 check.equal(method + " answers", method.getReturnType(), int.class);
                 check.equal(method + " arguments", allInts(method.getParameterTypes()), true);
@@ -58,7 +59,7 @@ public final class FaceTests {
         Set<String> constants = new TreeSet<>();
         for (Field field : face.getDeclaredFields()) {
             if (!Modifier.isPrivate(field.getModifiers())) {
-                constants.add(field.getName());
+                constants.add(field.getName() + " " + field.getInt(null));
                 check.equal(field + "", Modifier.toString(field.getModifiers()), "public static final");
             }
             boolean constant = !Modifier.isStatic(field.getModifiers()) || Modifier.isFinal(field.getModifiers());
@@ -68,6 +69,15 @@ public final class FaceTests {
         Constructor<?>[] constructors = face.getDeclaredConstructors();
         check.equal("constructors", constructors.length, 1);
         check.equal("constructor", constructors[0].toString(), "public LicenceKeeper()");
+    }
+
+    private static String throwsClause(Method method) {
+        StringBuilder letters = new StringBuilder();
+        for (Class<?> thrown : method.getExceptionTypes()) {
+            String name = thrown.getSimpleName();
+            letters.append(name.charAt(name.startsWith("Illegal") ? "Illegal".length() : 0));
+        }
+        return letters.toString();
     }
 
     private static boolean allInts(Class<?>[] types) {

@@ -14,6 +14,16 @@ final class Recorded {
     private final LicenceKeeper keeper = new LicenceKeeper();
     private final List<Step> steps = new ArrayList<>();
 
+    /** A keeper with the product 0 found in version 1 on as many machines, with these cores. */
+    static Recorded withCores(int... cores) {
+        Recorded keeper = new Recorded();
+        for (int machine = 0; machine < cores.length; machine++) {
+            keeper.setCores(machine, cores[machine]);
+            keeper.find(machine, 0, 1);
+        }
+        return keeper;
+    }
+
     LicenceKeeper again() {
         LicenceKeeper fresh = new LicenceKeeper();
         for (Step step : steps) {
