@@ -407,13 +407,17 @@ public final class LicenceKeeper {
         /** Lays the right at hand in all ways, whatever its count is. */
         void layOpen() {
             for (int machine = 0; machine < MACHINES; machine++) {
-                int cover = machineCovers[machine];
-                int takes = machineTakes[machine];
-                // A second laying on the same machine covers nothing more, so one row serves as old and new.
-                for (int set = 0; set < MACHINE_SETS; set++) {
-                    int wider = (set | cover) & (MACHINE_SETS - 1);
-                    taken[wider] = Math.min(taken[wider], taken[set] + takes);
+                if (machineCovers[machine] != 0) {
+                    layOrNot(machineCovers[machine], machineTakes[machine]);
                 }
+            }
+        }
+
+        private void layOrNot(int cover, int takes) {
+            // A second laying on the same machine covers nothing more, so one row serves as old and new.
+            for (int set = 0; set < MACHINE_SETS; set++) {
+                int wider = (set | cover) & (MACHINE_SETS - 1);
+                taken[wider] = Math.min(taken[wider], taken[set] + takes);
             }
         }
 

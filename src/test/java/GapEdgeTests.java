@@ -115,8 +115,8 @@ public final class GapEdgeTests extends BySentence {
     @Says("Rights: The gap of a product is the least sum of weights of machines that are not covered by any right, over "
             + "all layings")
     void gapIsLeastWhereTheDearestIsLeftOut() {
-        answers(6, () -> byCore(10, 6, 5, 5).gap(0));
-        answers(1, () -> byCore(10, 6, 5, 5).uncovered(0));
+        answers(6, () -> byCore(10, 5, 5, 6).gap(0));
+        answers(4, () -> byCore(10, 5, 5, 6).uncovered(0));
     }
 
     @Says("Rights: The gap of a product is the least sum of weights of machines that are not covered by any right, over "
@@ -169,11 +169,16 @@ public final class GapEdgeTests extends BySentence {
     void gapWith12Rights() {
         Recorded keeper = Recorded.withCores(8, 8, 8, 8, 8, 8, 8, 8);
         for (int right = 0; right < 12; right++) {
-            keeper.buy(0, right < 7 ? DEVICE : CORE, right < 7 ? 1 : 7, 0);
+            boolean outer = right == 0 || right == 11;
+            keeper.buy(0, outer ? DEVICE : CORE, outer ? 1 : 7, 0);
         }
-        answers(8, () -> keeper.gap(0));
-        keeper.setCores(7, 7);
+        answers(6 * 8, () -> keeper.gap(0));
+        for (int machine = 2; machine < 8; machine++) {
+            keeper.setCores(machine, 7);
+        }
         answers(0, () -> keeper.gap(0));
+        keeper.lend(11, 1);
+        answers(8, () -> keeper.gap(0));
     }
 
     @Says("Promise 19: Throws IndexOutOfBoundsException if there is no such product")
@@ -239,6 +244,8 @@ public final class GapEdgeTests extends BySentence {
         keeper.setPrice(0, 0);
         answers(5, () -> keeper.uncovered(0));
         answers(0, () -> keeper.uncovered(1));
+        keeper.buy(0, DEVICE, 1, 0);
+        answers(1, () -> keeper.uncovered(0));
     }
 
     @Says("Promise 20: Throws IndexOutOfBoundsException if there is no such product")
@@ -547,10 +554,10 @@ public final class GapEdgeTests extends BySentence {
 
     @Says("Promise 23: Returns how much of a right could be lent out and the gap of its product would stay as it is.")
     void spareForTheSameGapWithOtherMachines() {
-        Recorded keeper = byCore(8, 8, 4, 4);
+        Recorded keeper = byCore(8, 4, 4, 8);
+        keeper.move(0, 3);
         keeper.move(1, 3);
-        keeper.move(2, 3);
-        answers(1, () -> keeper.uncovered(0));
+        answers(3, () -> keeper.uncovered(0));
         answers(4, () -> keeper.spare(0));
     }
 

@@ -54,17 +54,19 @@ public final class MachineEdgeTests extends BySentence {
         other.setPrice(1, 4);
         other.move(3, 4);
         other.gapIf(0, 0, 1);
-        LicenceKeeper after = new LicenceKeeper();
-        for (LicenceKeeper keeper : new LicenceKeeper[] {before, after}) {
-            answers(0, keeper::today);
-            answers(0, keeper::rights);
-            answers(1, () -> keeper.latest(0));
-            answers(NONE, () -> keeper.hostOf(3));
-            answers(0, () -> keeper.gap(0));
-            answers(1, () -> keeper.setPrice(1, 1));
-            answers(1, () -> keeper.setCores(0, 1));
-            answers(0, () -> keeper.find(0, 0, 0));
-        }
+        isNew(before);
+        isNew(new LicenceKeeper());
+    }
+
+    private void isNew(LicenceKeeper keeper) {
+        answers(0, keeper::today);
+        answers(0, keeper::rights);
+        answers(1, () -> keeper.latest(0));
+        answers(NONE, () -> keeper.hostOf(3));
+        answers(0, () -> keeper.gap(0));
+        answers(1, () -> keeper.setPrice(1, 1));
+        answers(1, () -> keeper.setCores(0, 1));
+        answers(0, () -> keeper.find(0, 0, 0));
     }
 
     @Says("Machines: There are the machines 0 to 7, each with cores, 1 at first, and a host, another machine, or none, "

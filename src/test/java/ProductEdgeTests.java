@@ -366,8 +366,8 @@ public final class ProductEdgeTests extends BySentence {
     @Says("Promise 8: right: its number")
     void upgradeTheFirstAndTheLastRight() {
         Recorded keeper = withRights(3);
-        answers(3, () -> keeper.upgrade(0, 1));
-        answers(4, () -> keeper.upgrade(2, 2));
+        answers(3, () -> keeper.upgrade(2, 2));
+        answers(4, () -> keeper.upgrade(0, 1));
         answers(4, () -> keeper.countOf(0));
         answers(5, () -> keeper.countOf(1));
         answers(3, () -> keeper.countOf(2));
